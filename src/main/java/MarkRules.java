@@ -25,7 +25,7 @@ public final class MarkRules {
     private static final int LAST_WORD = 99;
     private static final int LAST_CHOICE = 4;
 
-    private static final int CLASS = 0, FACE = 1, METHOD = 3, VOID_METHOD = 4, PARAMETER = 5;
+    private static final int CLASS = 0, FACE = 1, FIELD = 2, METHOD = 3, VOID_METHOD = 4, PARAMETER = 5;
     /** The TARGETS that fit at each sort of PLACE. */
     private static final int[] FITTING_TARGETS = {1, 1, 2 + 16, 4 + 16, 4, 8 + 16};
 
@@ -62,9 +62,6 @@ public final class MarkRules {
         if (targets < 0 || targets > ALL_TARGETS || keep < 0 || keep > RUN) {
             return BAD;
         }
-        if (marks.size >= MAX_MARKS) {
-            return FULL;
-        }
         return marks.add(targets, keep, inherited);
     }
 
@@ -80,9 +77,6 @@ public final class MarkRules {
         }
         if (marks.wouldLeadTooFar(mark, kind)) {
             return RING;
-        }
-        if (marks.sizes[mark] >= MAX_ELEMENTS) {
-            return FULL;
         }
         return marks.addElement(mark, name, kind, row);
     }
@@ -122,27 +116,15 @@ public final class MarkRules {
     }
 
     public int place(int kind, int of) {
-        if (!places.fits(kind, of)) {
-            return BAD;
-        }
-        if (places.size >= MAX_PLACES) {
-            return FULL;
-        }
-        return places.add(kind, of);
+        return places.fits(kind, of) ? places.add(kind, of) : BAD;
     }
 
     public int value(int kind, int v) {
-        if (!isSimple(kind, v)) {
-            return BAD;
-        }
-        return isFullOfValues() ? FULL : values.add(SIMPLE, kind, v);
+        return isSimple(kind, v) ? values.add(SIMPLE, kind, v) : BAD;
     }
 
     public int row(int kind) {
-        if (!marks.hasKind(kind)) {
-            return BAD;
-        }
-        return isFullOfValues() ? FULL : values.add(ROW, kind, 0);
+        return marks.hasKind(kind) ? values.add(ROW, kind, 0) : BAD;
     }
 
     public int push(int row, int value) {
@@ -169,11 +151,11 @@ public final class MarkRules {
         if (!marks.has(mark)) {
             return BAD;
         }
-        if (isFullOfValues()) {
-            return FULL;
+        int made = values.add(INSTANCE, FIRST_MARK_KIND + mark, 0);
+        if (made != FULL) {
+            marks.everMade[mark] = true;
         }
-        marks.everMade[mark] = true;
-        return values.add(INSTANCE, FIRST_MARK_KIND + mark, 0);
+        return made;
     }
 
     public int give(int instance, int name, int value) {
@@ -335,10 +317,6 @@ public final class MarkRules {
         return holds ? 1 : 0;
     }
 
-    private boolean isFullOfValues() {
-        return values.size >= MAX_VALUES;
-    }
-
     private boolean isValueOrNone(int value) {
         return value == NONE || values.has(value);
     }
@@ -376,14 +354,14 @@ public final class MarkRules {
         int kind = marks.kinds[slot];
         boolean wrap = marks.rows[slot] && values.isOfKind(value, kind);
         boolean asItIs = marks.rows[slot] ? values.isRowOf(value, kind) : values.isOfKind(value, kind);
-        if (wrap && isFullOfValues()) {
-            return FULL;
-        }
         if (!wrap && !asItIs) {
             return fail(CAST);
         }
-        latestFailure = NO_FAILURE;
         int taken = wrap ? values.addRowOfOne(kind, value) : value;
+        if (taken == FULL) {
+            return FULL;
+        }
+        latestFailure = NO_FAILURE;
         values.finish(taken);
         return taken;
     }
@@ -514,6 +492,9 @@ public final class MarkRules {
         }
 
         int add(int itsTargets, int keep, boolean isInherited) {
+            if (size >= MAX_MARKS) {
+                return FULL;
+            }
             targets[size] = itsTargets;
             keeps[size] = keep;
             inherited[size] = isInherited;
@@ -522,6 +503,9 @@ public final class MarkRules {
         }
 
         int addElement(int mark, int name, int kind, boolean isRow) {
+            if (sizes[mark] >= MAX_ELEMENTS) {
+                return FULL;
+            }
             int slot = mark * MAX_ELEMENTS + sizes[mark];
             names[slot] = name;
             kinds[slot] = kind;
@@ -626,22 +610,26 @@ public final class MarkRules {
         }
 
         boolean fits(int kind, int owner) {
-            if (kind < CLASS || kind > PARAMETER) {
-                return false;
-            }
             switch (kind) {
                 case CLASS:
                     return owner == NONE || isClass(owner);
                 case FACE:
                     return owner == NONE;
+                case FIELD:
+                case METHOD:
+                case VOID_METHOD:
+                    return isType(owner);
                 case PARAMETER:
                     return isMethod(owner);
                 default:
-                    return isType(owner);
+                    return false;
             }
         }
 
         int add(int kind, int owner) {
+            if (size >= MAX_PLACES) {
+                return FULL;
+            }
             kinds[size] = kind;
             owners[size] = owner;
             size++;
@@ -693,6 +681,9 @@ public final class MarkRules {
         }
 
         int add(int sort, int kind, int number) {
+            if (size >= MAX_VALUES) {
+                return FULL;
+            }
             sorts[size] = sort;
             kinds[size] = kind;
             numbers[size] = number;
@@ -702,7 +693,9 @@ public final class MarkRules {
 
         int addRowOfOne(int kind, int v) {
             int made = add(ROW, kind, 0);
-            append(made, v);
+            if (made != FULL) {
+                append(made, v);
+            }
             return made;
         }
 

@@ -22,6 +22,7 @@ public final class MarksTest {
         fallbackFull();
         c.promise(5);
         containerRules();
+        containerOfFive();
         containerOrder();
         c.end();
     }
@@ -289,6 +290,22 @@ public final class MarksTest {
         c.due("ELEMENT 0 may have a DEFAULT too", x.container(0, 5), 1);
         c.due("CONTAINER", x.count(40), 5);
         c.due("only of that MARK", x.count(45), NONE);
+    }
+
+    /** What lies behind the last ELEMENT of a MARK is another MARK's. */
+    private static void containerOfFive() {
+        MarkRules x = new MarkRules();
+        for (int m = 0; m < 3; m++) {
+            x.mark(1, 0, false);
+        }
+        x.element(1, 0, 10, true);
+        for (int name = 1; name < 5; name++) {
+            x.element(1, name, 0, false);
+            c.due("without DEFAULT", x.container(0, 1), 0);
+            x.fallback(1, name, x.value(0, name));
+        }
+        x.element(2, 7, 0, false);
+        c.due("all have a DEFAULT", x.container(0, 1), 1);
     }
 
     private static void containerOrder() {

@@ -34,6 +34,7 @@ public final class ValuesTest {
         equalSimple();
         equalRows();
         equalInstances();
+        equalFiveElements();
         c.end();
     }
 
@@ -51,6 +52,12 @@ public final class ValuesTest {
         c.due("PARAMETER", x.place(5, 3), 5);
         c.due("PARAMETER", x.place(5, 4), 6);
         c.due("CLASS with a PARENT", x.place(0, 0), 7);
+        int[] noKinds = {MIN, -2, -1, 6, 7, MAX};
+        for (int kind : noKinds) {
+            c.due("kind " + kind + " of a TYPE", x.place(kind, 0), BAD);
+            c.due("kind " + kind + " of a METHOD", x.place(kind, 3), BAD);
+            c.due("kind " + kind + " of NONE", x.place(kind, NONE), BAD);
+        }
         for (int of = 1; of <= 6; of++) {
             c.due("a PARENT that is no CLASS: " + of, x.place(0, of), BAD);
         }
@@ -534,5 +541,25 @@ public final class ValuesTest {
         x.give(d, 0, other);
         c.due("by their ROWS, not", x.equal(a, d), 0);
         c.due("an INSTANCE and a ROW of it", x.equal(x.instance(0), x.row(10)), 0);
+    }
+
+    /** What lies behind the last ELEMENT is another VALUE's. */
+    private static void equalFiveElements() {
+        MarkRules x = new MarkRules();
+        x.mark(1, 0, false);
+        for (int name = 0; name < 5; name++) {
+            x.element(0, name, 0, false);
+        }
+        int number = x.value(0, 1);
+        int a = x.instance(0);
+        int b = x.instance(0);
+        int last = x.instance(0);
+        x.give(last, 0, number);
+        c.due("both have none", x.equal(a, b), 1);
+        c.due("the first differs", x.equal(a, last), 0);
+        x.give(b, 4, number);
+        c.due("the last differs", x.equal(a, b), 0);
+        x.give(a, 4, x.value(0, 1));
+        c.due("the last is EQUAL", x.equal(a, b), 1);
     }
 }
