@@ -274,7 +274,7 @@ public final class RandomRunsTest {
         }
     }
 
-    /** What is asked of the first MARKS at the first PLACES: with the calls before it stays below 512. */
+    /** What is asked of the first MARKS at the first PLACES: with the calls before, but for letter(), below 512. */
     private boolean lastLook() {
         boolean right = true;
         for (int place = 0; place < 6; place++) {
